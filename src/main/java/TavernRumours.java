@@ -503,7 +503,7 @@ public final class TavernRumours {
         }
 
         void setKind(int token, Kind kind) {
-            if (has(token)) {
+            if (token >= 0 && token < count) {
                 kinds[token] = kind;
             }
         }
@@ -694,8 +694,9 @@ public final class TavernRumours {
     private static final class Grammar {
         private static final int TESTS = 0;
         private static final int BOTHS = 1;
-        private static final int SUMS = 2;
-        private static final int PRODUCTS = 3;
+        private static final int COMPARISONS = 2;
+        private static final int SUMS = 3;
+        private static final int PRODUCTS = 4;
 
         private Plan plan;
         /** The token that is looked at: the wrong one, if the tokens are no list. */
@@ -775,6 +776,9 @@ public final class TavernRumours {
                     return ahead == Kind.OR;
                 case BOTHS:
                     return ahead == Kind.AND;
+                case COMPARISONS:
+                    return ahead == Kind.LESS || ahead == Kind.GREATER || ahead == Kind.EQUAL
+                            || ahead == Kind.AT_MOST || ahead == Kind.AT_LEAST;
                 case SUMS:
                     return ahead == Kind.PLUS || ahead == Kind.MINUS;
                 default:
@@ -813,17 +817,11 @@ public final class TavernRumours {
                     good = take(ahead) && take(Kind.NAME) && take(Kind.NAME);
                     break;
                 default:
-                    return comparison(depth);
+                    good = chain(SUMS, depth);
+                    token = next;
+                    good = good && joinsAt(COMPARISONS) && take(ahead) && chain(SUMS, depth);
+                    break;
             }
-            plan.addCode(token);
-            return good;
-        }
-
-        private boolean comparison(int depth) {
-            boolean good = chain(SUMS, depth);
-            int token = next;
-            good = good && (take(Kind.LESS) || take(Kind.GREATER) || take(Kind.EQUAL)
-                    || take(Kind.AT_MOST) || take(Kind.AT_LEAST)) && chain(SUMS, depth);
             plan.addCode(token);
             return good;
         }

@@ -22,9 +22,10 @@ final class Lists {
         taverns = 0;
         roads = 0;
         rumours = 0;
-        int wantTaverns = large ? 7 + random.nextInt(4) : 1 + random.nextInt(6);
-        int wantRoads = wantTaverns < 2 ? 0 : random.nextInt(large ? 15 : 2 * wantTaverns);
-        int wantRumours = random.nextInt(large ? 7 : 4);
+        int beyond = chance(8) ? 1 : 0;
+        int wantTaverns = large ? 7 + random.nextInt(4 + beyond) : 1 + random.nextInt(6);
+        int wantRoads = wantTaverns < 2 ? 0 : random.nextInt(large ? 15 + beyond : 2 * wantTaverns);
+        int wantRumours = random.nextInt(large ? 7 + beyond : 4);
         for (; taverns < wantTaverns; taverns++) {
             add("tavern t" + taverns + " ;");
         }
@@ -38,9 +39,9 @@ final class Lists {
             int on = chance(4) ? random.nextInt(100) : Math.min(99, hour + random.nextInt(12));
             add("rumour s" + rumours + " at t" + random.nextInt(taverns) + " on " + on + " ;");
         }
-        int orders = random.nextInt(chance(4) ? 21 : 6);
-        for (int i = 0; i < orders && row.size() < 360; i++) {
-            order();
+        int orders = random.nextInt(chance(4) ? 21 + beyond : 6);
+        for (int i = 0; i < orders && row.size() < 360 + 60 * beyond; i++) {
+            order(beyond > 0 ? 420 : 395);
         }
         if (chance(4)) {
             spoil();
@@ -70,7 +71,7 @@ final class Lists {
         return "t" + random.nextInt(taverns);
     }
 
-    private void order() {
+    private void order(int most) {
         int from = row.size();
         int kind = random.nextInt(3);
         if (kind < 2 && roads == 0) {
@@ -85,7 +86,7 @@ final class Lists {
         add("when");
         test(chance(5) ? 6 : 2);
         add(";");
-        if (row.size() > 395) {
+        if (row.size() > most) {
             row.subList(from, row.size()).clear();
         }
     }
@@ -165,8 +166,10 @@ final class Lists {
     private void spoil() {
         for (int times = chance(3) ? 2 : 1; times > 0 && !row.isEmpty(); times--) {
             int place = random.nextInt(row.size());
-            int how = random.nextInt(6);
-            if (how == 0) {
+            int how = random.nextInt(14);
+            if (how > 5) {
+                misname(place);
+            } else if (how == 0) {
                 row.remove(place);
             } else if (how == 1) {
                 row.add(place, anyToken());
@@ -178,6 +181,21 @@ final class Lists {
                 row.subList(place, row.size()).clear();
             } else {
                 row.set(place, anyToken());
+            }
+        }
+    }
+
+    /** Puts a name or number in the place of the next one: so the grammar stays right. */
+    private void misname(int from) {
+        for (int place = from; place < row.size(); place++) {
+            String token = row.get(place);
+            if (token.matches("[trs][0-9]+")) {
+                row.set(place, (chance(5) ? "x" : token.substring(0, 1)) + random.nextInt(15));
+                return;
+            }
+            if (token.matches("[0-9]+")) {
+                row.set(place, new String[] {"0", "1", "30", "31", "99", "100", "000007", "999999"}[random.nextInt(8)]);
+                return;
             }
         }
     }
