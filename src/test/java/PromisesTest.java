@@ -24,6 +24,9 @@ public final class PromisesTest {
         test.grammar();
         test.depth();
         test.limitsOfLists();
+        test.cutTokens();
+        test.fullTapes();
+        test.otherNames();
         test.errorsOfNames();
         test.errorPlaces();
         test.counts();
@@ -238,6 +241,8 @@ public final class PromisesTest {
         isError(hush + times(9, "-") + "1=1;", 1, at + 8);
         isError(hush + times(8, "not ") + "1=1;", 0, -1);
         isError(hush + times(9, "not ") + "1=1;", 1, at + 32);
+        isError(PAIR + "1;hurt r by " + times(8, "(") + "1" + times(8, ")") + " when 1=1;", 0, -1);
+        isError(PAIR + "1;hurt r by " + times(9, "(") + "1" + times(9, ")") + " when 1=1;", 1, 63);
         isError(hush + times(4, "not [") + "1=1" + times(4, "]") + ";", 0, -1);
         isError(hush + times(4, "not [") + "-1=1" + times(4, "]") + ";", 1, at + 20);
         isError(hush + times(7, "-") + "1=-" + times(7, "-") + "1;", 0, -1);
@@ -261,6 +266,46 @@ public final class PromisesTest {
         isError(sum + times(196, "+0") + "=0;", 1, sum.length() + 2 * 196 + 1);
         isError(times(1999, " ") + "x", 1, 1999);
         isError(times(399, "a "), 1, 0);
+    }
+
+    /** What trim() cut off is still in memory, but no longer on the tape. */
+    private void cutTokens() {
+        String[] ahead = {"tavern a;hush a when 1<", "tavern a;hush a when 1=1", "tavern abc", "tavern a;rumour s at a on 9"};
+        String[] cut = {"=2;", "00;", "de;", "9;"};
+        for (int i = 0; i < 4; i++) {
+            TavernRumours x = new TavernRumours();
+            String text = ahead[i];
+            Due.write(x, text + cut[i]);
+            x.trim(text.length());
+            is("teach " + text, x::teach, 1);
+            is("errorAt " + text, x::errorAt, text.length());
+            is("the rest", () -> Due.teach(x, "tavern q;"), 0);
+        }
+    }
+
+    private void fullTapes() {
+        for (String end : new String[] {"a", "1", "<", ">", "=", "-", "(", ";", "tavern", "hush", "\n"}) {
+            String text = times(2000 - end.length(), " ") + end;
+            boolean begins = end.equals("tavern") || end.equals("hush");
+            isError(text, end.equals("\n") ? 0 : 1, end.equals("\n") ? -1 : begins ? 2000 : text.indexOf(end.trim()));
+        }
+        String list = "tavern a;" + times(1991 - 21, " ") + "hush a when 1<2and 1<";
+        isError(list, 1, 2000);
+        isError("tavern a;" + times(1991 - 9, " ") + "tavern b;", 0, -1);
+    }
+
+    /** Names are the same only if all their signs are. */
+    private void otherNames() {
+        String signs = "abcdefghijklmnopqrstuvwxyz0123456789";
+        for (int i = 0; i < signs.length(); i++) {
+            for (int j = 0; j < signs.length(); j++) {
+                String list = "tavern q" + signs.charAt(i) + ";tavern q" + signs.charAt(j) + ";";
+                isError(list, i == j ? 2 : 0, i == j ? 17 : -1);
+            }
+            String longer = "tavern q;tavern q" + signs.charAt(i) + ";tavern q" + signs.charAt(i) + "0;";
+            isError(longer, 0, -1);
+        }
+        isError("tavern zzzzzzzzzz;tavern yzzzzzzzzz;tavern zzzzzzzzzy;tavern zzzz9zzzzz;tavern z999999999;", 0, -1);
     }
 
     private void errorsOfNames() {
