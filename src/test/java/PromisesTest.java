@@ -2,15 +2,9 @@ import java.util.function.LongSupplier;
 
 /** Each promise with answers worked out by hand: ordinary ones, the edges that it names, wrong inputs. */
 public final class PromisesTest {
-    private static final Class<IndexOutOfBoundsException> IOOBE = IndexOutOfBoundsException.class;
-    private static final Class<IllegalArgumentException> IAE = IllegalArgumentException.class;
-    private static final Class<IllegalStateException> ISE = IllegalStateException.class;
 
-    /** a -2- b -3- c, a -6- c (s), and d -1- e apart; e has a second road to d, u, as long. */
-    private static final String LAND = "tavern a;tavern b;tavern c;tavern d;tavern e;"
-            + "road p from a to b miles 2;road q from b to c miles 3;road s from a to c miles 6;"
-            + "road t from d to e miles 1;road u from e to d miles 1;";
-    private static final String PAIR = "tavern a;tavern b;road r from a to b miles ";
+    private static final String LAND = Edges.LAND;
+    private static final String PAIR = Edges.PAIR;
 
     private final Due due = new Due();
 
@@ -56,15 +50,6 @@ public final class PromisesTest {
         test.due.end("PromisesTest");
     }
 
-    private static TavernRumours land(String list) {
-        TavernRumours x = new TavernRumours();
-        int error = Due.teach(x, list);
-        if (error != 0) {
-            throw new IllegalArgumentException("error " + error + " at " + x.errorAt() + ": " + list);
-        }
-        return x;
-    }
-
     private void is(String call, LongSupplier answer, long want) {
         due.is(call, answer, want);
     }
@@ -88,9 +73,9 @@ public final class PromisesTest {
             is("new count " + what, () -> x.count(one), 0);
         }
         is("new errorAt", x::errorAt, -1);
-        due.throwsIt("new tavern", () -> x.tavern(0, 0), IOOBE);
-        due.throwsIt("new road", () -> x.road(0, 0), IOOBE);
-        due.throwsIt("new rumour", () -> x.rumour(0, 0), IOOBE);
+        due.throwsIt("new tavern", () -> x.tavern(0, 0), Edges.IOOBE);
+        due.throwsIt("new road", () -> x.road(0, 0), Edges.IOOBE);
+        due.throwsIt("new rumour", () -> x.rumour(0, 0), Edges.IOOBE);
         is("new pass", () -> x.pass(3), 0);
         is("new best", x::best, -1);
         long d = 1697;
@@ -107,10 +92,10 @@ public final class PromisesTest {
             int length = 20 * i;
             is("feed " + i, () -> x.feed(0x20202020, 0x0a202020, 0x20202020, 0x20202020, 0x20202020), length);
         }
-        due.throwsIt("feed beyond 2000", () -> x.feed(0, 0, 0, 0, 0), ISE);
+        due.throwsIt("feed beyond 2000", () -> x.feed(0, 0, 0, 0, 0), Edges.ISE);
         is("tape stays", () -> x.count(14), 2000);
         is("trim to 1981", () -> x.trim(1981), 1981);
-        due.throwsIt("feed to 2001", () -> x.feed(0, 0, 0, 0, 0), ISE);
+        due.throwsIt("feed to 2001", () -> x.feed(0, 0, 0, 0, 0), Edges.ISE);
         is("trim to 1980", () -> x.trim(1980), 1980);
         is("feed to 2000", () -> x.feed(0x20202020, 0x20202020, 0x20202020, 0x20202020, 0x20202020), 2000);
         is("blanks are an empty list", x::teach, 0);
@@ -128,14 +113,14 @@ public final class PromisesTest {
     private void trimming() {
         TavernRumours x = new TavernRumours();
         is("trim nothing", () -> x.trim(0), 0);
-        due.throwsIt("trim 1 of 0", () -> x.trim(1), IAE);
+        due.throwsIt("trim 1 of 0", () -> x.trim(1), Edges.IAE);
         Due.write(x, "tavern a;tavern b;xx");
-        due.throwsIt("trim -1", () -> x.trim(-1), IAE);
-        due.throwsIt("trim 21", () -> x.trim(21), IAE);
-        due.throwsIt("trim least", () -> x.trim(Integer.MIN_VALUE), IAE);
+        due.throwsIt("trim -1", () -> x.trim(-1), Edges.IAE);
+        due.throwsIt("trim 21", () -> x.trim(21), Edges.IAE);
+        due.throwsIt("trim least", () -> x.trim(Integer.MIN_VALUE), Edges.IAE);
         is("trim 20", () -> x.trim(20), 20);
         is("trim 18", () -> x.trim(18), 18);
-        due.throwsIt("trim 19", () -> x.trim(19), IAE);
+        due.throwsIt("trim 19", () -> x.trim(19), Edges.IAE);
         is("tape", () -> x.count(14), 18);
         is("teach", x::teach, 0);
         is("taverns", () -> x.count(1), 2);
@@ -143,7 +128,7 @@ public final class PromisesTest {
 
     // ---- 4
     private void teaching() {
-        TavernRumours x = land(PAIR + "1;rumour s at a on 2;rumour o at b on 4;hurt r by 3 when hour=4;");
+        TavernRumours x = Edges.land(PAIR + "1;rumour s at a on 2;rumour o at b on 4;hurt r by 3 when hour=4;");
         x.pass(3);
         is("walks", () -> x.count(8), 1);
         x.pass(2);
@@ -166,7 +151,7 @@ public final class PromisesTest {
         is("an empty tape", x::teach, 0);
         is("nothing left", () -> x.count(1) + x.count(2) + x.count(3) + x.count(4), 0);
         is("but the hour", () -> x.count(0), 15);
-        TavernRumours y = land(PAIR + "9;rumour s at a on 0;");
+        TavernRumours y = Edges.land(PAIR + "9;rumour s at a on 0;");
         y.pass(2);
         is("lost in all", () -> y.hurt(0, 3) + y.pass(1) + y.count(13), 4);
         is("taught anew", () -> Due.teach(y, PAIR + "9;rumour s at a on 0;"), 0);
@@ -340,15 +325,15 @@ public final class PromisesTest {
         isError("tavern a;rumour s at a on 100;", 5, 26);
         isError("tavern a;rumour s at a on 99;", 0, -1);
         isError("tavern a;rumour s at a on 0;", 0, -1);
-        String taverns = numbered(10, "tavern t", ";");
+        String taverns = Edges.numbered(10, "tavern t", ";");
         isError(taverns, 0, -1);
         isError(taverns + "tavern x;", 4, taverns.length() + 7);
         isError(taverns + "tavern t3;", 2, taverns.length() + 7);
-        String roads = "tavern a;tavern b;" + numbered(14, "road r", " from a to b miles 1;");
+        String roads = "tavern a;tavern b;" + Edges.numbered(14, "road r", " from a to b miles 1;");
         isError(roads, 0, -1);
         isError(roads + "road x from c to b miles 1;", 4, roads.length() + 5);
         isError(roads + "road r13 from c to b miles 1;", 2, roads.length() + 5);
-        String rumours = "tavern a;" + numbered(6, "rumour s", " at a on 0;");
+        String rumours = "tavern a;" + Edges.numbered(6, "rumour s", " at a on 0;");
         isError(rumours, 0, -1);
         isError(rumours + "rumour x at b on 0;", 4, rumours.length() + 7);
         isError(rumours + "rumour s0 at b on 0;", 2, rumours.length() + 7);
@@ -357,14 +342,6 @@ public final class PromisesTest {
         isError(orders + "mend r when 1=1;", 4, orders.length());
         isError(orders + "hush x when 1=1;", 4, orders.length());
         isError(orders + "hurt r by 1 when 1=1;", 4, orders.length());
-    }
-
-    private static String numbered(int n, String ahead, String behind) {
-        StringBuilder text = new StringBuilder();
-        for (int i = 0; i < n; i++) {
-            text.append(ahead).append(i).append(behind);
-        }
-        return text.toString();
     }
 
     // ---- 5
@@ -384,14 +361,14 @@ public final class PromisesTest {
 
     // ---- 6
     private void counts() {
-        TavernRumours x = land(LAND + "rumour l at a on 0;rumour m at d on 1;hush e when 1=2;hurt p by 1 when hour=3;");
+        TavernRumours x = Edges.land(LAND + "rumour l at a on 0;rumour m at d on 1;hush e when 1=2;hurt p by 1 when hour=3;");
         int[] start = {0, 5, 5, 2, 2, 5, 0, 2, 0, 0, 0, 2 + 3 + 1, 0, 0, 0};
         for (int what = 0; what < 15; what++) {
             int one = what;
             is("count " + what, () -> x.count(one), start[one]);
         }
-        due.throwsIt("count -1", () -> x.count(-1), IOOBE);
-        due.throwsIt("count 15", () -> x.count(15), IOOBE);
+        due.throwsIt("count -1", () -> x.count(-1), Edges.IOOBE);
+        due.throwsIt("count 15", () -> x.count(15), Edges.IOOBE);
         // a hears l in 0 and sends 2; b hears it in 2 and sends 2 more; c in 5; d hears m in 1, sends 2; e in 2, sends 2
         is("pass 4", () -> x.pass(4), 4);
         x.hurt(2, 3);
@@ -409,7 +386,7 @@ public final class PromisesTest {
 
     // ---- 7
     private void taverns() {
-        TavernRumours x = land(LAND + "rumour l at e on 0;rumour m at e on 0;");
+        TavernRumours x = Edges.land(LAND + "rumour l at e on 0;rumour m at e on 0;");
         int[][] start = {{2, 0, 0, 5}, {2, 0, 0, 3}, {2, 0, 0, 5}, {2, 0, 3, 1}, {2, 0, 3, 1}};
         for (int t = 0; t < 5; t++) {
             for (int what = 0; what < 4; what++) {
@@ -427,15 +404,15 @@ public final class PromisesTest {
         is("own part", () -> x.tavern(0, 2), 0);
         is("part of b", () -> x.tavern(1, 2), 1);
         is("part of c", () -> x.tavern(2, 2), 1);
-        due.throwsIt("tavern -1", () -> x.tavern(-1, 0), IOOBE);
-        due.throwsIt("tavern 5", () -> x.tavern(5, 0), IOOBE);
-        due.throwsIt("what -1", () -> x.tavern(0, -1), IOOBE);
-        due.throwsIt("what 4", () -> x.tavern(0, 4), IOOBE);
+        due.throwsIt("tavern -1", () -> x.tavern(-1, 0), Edges.IOOBE);
+        due.throwsIt("tavern 5", () -> x.tavern(5, 0), Edges.IOOBE);
+        due.throwsIt("what -1", () -> x.tavern(0, -1), Edges.IOOBE);
+        due.throwsIt("what 4", () -> x.tavern(0, 4), Edges.IOOBE);
     }
 
     // ---- 8
     private void roads() {
-        TavernRumours x = land(LAND + "rumour l at d on 0;");
+        TavernRumours x = Edges.land(LAND + "rumour l at d on 0;");
         int[][] start = {{0, 1, 2, 0, 2, 1, 0, 1, 0}, {1, 2, 3, 0, 3, 1, 0, 1, 0}, {0, 2, 6, 0, 6, 1, 0, 0, 0},
             {3, 4, 1, 0, 1, 1, 0, 1, 0}, {4, 3, 1, 0, 1, 1, 0, 0, 0}};
         for (int r = 0; r < 5; r++) {
@@ -458,15 +435,15 @@ public final class PromisesTest {
         is("no span", () -> x.road(4, 6), 0);
         is("t is a span", () -> x.road(3, 6), 1);
         is("still on it", () -> x.road(4, 8), 1);
-        due.throwsIt("road -1", () -> x.road(-1, 0), IOOBE);
-        due.throwsIt("road 5", () -> x.road(5, 0), IOOBE);
-        due.throwsIt("what -1", () -> x.road(0, -1), IOOBE);
-        due.throwsIt("what 9", () -> x.road(0, 9), IOOBE);
+        due.throwsIt("road -1", () -> x.road(-1, 0), Edges.IOOBE);
+        due.throwsIt("road 5", () -> x.road(5, 0), Edges.IOOBE);
+        due.throwsIt("what -1", () -> x.road(0, -1), Edges.IOOBE);
+        due.throwsIt("what 9", () -> x.road(0, 9), Edges.IOOBE);
     }
 
     // ---- 9
     private void rumours() {
-        TavernRumours x = land(LAND + "rumour l at d on 7;rumour m at a on 1;");
+        TavernRumours x = Edges.land(LAND + "rumour l at d on 7;rumour m at a on 1;");
         x.pass(4);
         int[][] then = {{3, 7, 0, 0}, {0, 1, 2, 3}};
         for (int s = 0; s < 2; s++) {
@@ -476,15 +453,15 @@ public final class PromisesTest {
                 is("rumour " + s + " " + what, () -> x.rumour(rumour, one), then[rumour][one]);
             }
         }
-        due.throwsIt("rumour -1", () -> x.rumour(-1, 0), IOOBE);
-        due.throwsIt("rumour 2", () -> x.rumour(2, 0), IOOBE);
-        due.throwsIt("what -1", () -> x.rumour(0, -1), IOOBE);
-        due.throwsIt("what 4", () -> x.rumour(0, 4), IOOBE);
+        due.throwsIt("rumour -1", () -> x.rumour(-1, 0), Edges.IOOBE);
+        due.throwsIt("rumour 2", () -> x.rumour(2, 0), Edges.IOOBE);
+        due.throwsIt("what -1", () -> x.rumour(0, -1), Edges.IOOBE);
+        due.throwsIt("what 4", () -> x.rumour(0, 4), Edges.IOOBE);
     }
 
     // ---- 10
     private void hearing() {
-        TavernRumours x = land(LAND + "rumour l at a on 1;rumour m at e on 2;");
+        TavernRumours x = Edges.land(LAND + "rumour l at a on 1;rumour m at e on 2;");
         x.pass(10);
         int[][] since = {{1, -1}, {3, -1}, {6, -1}, {-1, 3}, {-1, 2}};
         for (int t = 0; t < 5; t++) {
@@ -494,15 +471,15 @@ public final class PromisesTest {
                 is("since " + t + " " + s, () -> x.since(tavern, rumour), since[tavern][rumour]);
             }
         }
-        due.throwsIt("tavern -1", () -> x.since(-1, 0), IOOBE);
-        due.throwsIt("tavern 5", () -> x.since(5, 0), IOOBE);
-        due.throwsIt("rumour -1", () -> x.since(0, -1), IOOBE);
-        due.throwsIt("rumour 2", () -> x.since(0, 2), IOOBE);
+        due.throwsIt("tavern -1", () -> x.since(-1, 0), Edges.IOOBE);
+        due.throwsIt("tavern 5", () -> x.since(5, 0), Edges.IOOBE);
+        due.throwsIt("rumour -1", () -> x.since(0, -1), Edges.IOOBE);
+        due.throwsIt("rumour 2", () -> x.since(0, 2), Edges.IOOBE);
     }
 
     // ---- 11
     private void waysFar() {
-        TavernRumours x = land(LAND);
+        TavernRumours x = Edges.land(LAND);
         is("itself", () -> x.far(0, 0), 0);
         is("over b", () -> x.far(0, 2), 5);
         is("back", () -> x.far(2, 0), 5);
@@ -513,16 +490,16 @@ public final class PromisesTest {
         is("broken", () -> x.far(0, 2), 7);
         x.hurt(0, 3);
         is("parted", () -> x.far(0, 2), -1);
-        due.throwsIt("far -1", () -> x.far(-1, 0), IOOBE);
-        due.throwsIt("far to -1", () -> x.far(0, -1), IOOBE);
-        due.throwsIt("far 5", () -> x.far(5, 0), IOOBE);
-        due.throwsIt("far to 5", () -> x.far(0, 5), IOOBE);
-        due.throwsIt("far itself of none", () -> x.far(5, 5), IOOBE);
+        due.throwsIt("far -1", () -> x.far(-1, 0), Edges.IOOBE);
+        due.throwsIt("far to -1", () -> x.far(0, -1), Edges.IOOBE);
+        due.throwsIt("far 5", () -> x.far(5, 0), Edges.IOOBE);
+        due.throwsIt("far to 5", () -> x.far(0, 5), Edges.IOOBE);
+        due.throwsIt("far itself of none", () -> x.far(5, 5), Edges.IOOBE);
     }
 
     // ---- 12
     private void steps() {
-        TavernRumours x = land("tavern a;tavern b;tavern c;tavern d;tavern e;road w from a to d miles 1;"
+        TavernRumours x = Edges.land("tavern a;tavern b;tavern c;tavern d;tavern e;road w from a to d miles 1;"
                 + "road v from d to c miles 3;road u from b to a miles 2;road t from b to c miles 2;"
                 + "road s from a to c miles 4;");
         is("of three as long ways", () -> x.step(0, 2), 1);
@@ -535,15 +512,15 @@ public final class PromisesTest {
         is("without b", () -> x.step(0, 2), 2);
         x.hurt(4, 3);
         is("by d", () -> x.step(0, 2), 3);
-        due.throwsIt("step -1", () -> x.step(-1, 0), IOOBE);
-        due.throwsIt("step to -1", () -> x.step(0, -1), IOOBE);
-        due.throwsIt("step 5", () -> x.step(5, 0), IOOBE);
-        due.throwsIt("step to 5", () -> x.step(0, 5), IOOBE);
+        due.throwsIt("step -1", () -> x.step(-1, 0), Edges.IOOBE);
+        due.throwsIt("step to -1", () -> x.step(0, -1), Edges.IOOBE);
+        due.throwsIt("step 5", () -> x.step(5, 0), Edges.IOOBE);
+        due.throwsIt("step to 5", () -> x.step(0, 5), Edges.IOOBE);
     }
 
     // ---- 13
     private void detours() {
-        TavernRumours x = land(LAND + "tavern f;road v from f to a miles 1;");
+        TavernRumours x = Edges.land(LAND + "tavern f;road v from f to a miles 1;");
         int[] ways = {9, 8, 5, 1, 1, -1};
         for (int r = 0; r < 6; r++) {
             int road = r;
@@ -552,13 +529,13 @@ public final class PromisesTest {
         x.hurt(2, 3);
         is("of a broken road", () -> x.detour(2), 5);
         is("over a broken road", () -> x.detour(0), -1);
-        due.throwsIt("detour -1", () -> x.detour(-1), IOOBE);
-        due.throwsIt("detour 6", () -> x.detour(6), IOOBE);
+        due.throwsIt("detour -1", () -> x.detour(-1), Edges.IOOBE);
+        due.throwsIt("detour 6", () -> x.detour(6), Edges.IOOBE);
     }
 
     // ---- 14
     private void replacing() {
-        TavernRumours x = land(LAND + "tavern f;road v from f to a miles 1;road w from c to a miles 6;");
+        TavernRumours x = Edges.land(LAND + "tavern f;road v from f to a miles 1;road w from c to a miles 6;");
         int[] roads = {2, 2, -1, 4, -1, -1, -1};
         for (int r = 0; r < 7; r++) {
             int road = r;
@@ -569,48 +546,48 @@ public final class PromisesTest {
         x.hurt(0, 3);
         is("not in the net", () -> x.replace(0), -1);
         is("one that is in it now", () -> x.replace(6), 2);
-        due.throwsIt("replace -1", () -> x.replace(-1), IOOBE);
-        due.throwsIt("replace 7", () -> x.replace(7), IOOBE);
+        due.throwsIt("replace -1", () -> x.replace(-1), Edges.IOOBE);
+        due.throwsIt("replace 7", () -> x.replace(7), Edges.IOOBE);
     }
 
     // ---- 15
     private void hurting() {
-        TavernRumours x = land(LAND);
+        TavernRumours x = Edges.land(LAND);
         is("by 1", () -> x.hurt(0, 1), 1);
         is("by 1 more", () -> x.hurt(0, 1), 2);
         is("open", () -> x.road(0, 5), 1);
         is("by 2 more", () -> x.hurt(0, 2), 3);
         is("again", () -> x.hurt(0, 3), 3);
         is("no order", () -> x.count(10), 0);
-        due.throwsIt("by 0", () -> x.hurt(1, 0), IAE);
-        due.throwsIt("by 4", () -> x.hurt(1, 4), IAE);
-        due.throwsIt("by -1", () -> x.hurt(1, -1), IAE);
-        due.throwsIt("road -1", () -> x.hurt(-1, 1), IOOBE);
-        due.throwsIt("road 5 by 0", () -> x.hurt(5, 0), IOOBE);
+        due.throwsIt("by 0", () -> x.hurt(1, 0), Edges.IAE);
+        due.throwsIt("by 4", () -> x.hurt(1, 4), Edges.IAE);
+        due.throwsIt("by -1", () -> x.hurt(1, -1), Edges.IAE);
+        due.throwsIt("road -1", () -> x.hurt(-1, 1), Edges.IOOBE);
+        due.throwsIt("road 5 by 0", () -> x.hurt(5, 0), Edges.IOOBE);
         is("nothing changed", () -> x.road(1, 3), 0);
     }
 
     // ---- 16
     private void mending() {
-        TavernRumours x = land(LAND);
+        TavernRumours x = Edges.land(LAND);
         x.hurt(0, 3);
         is("mend", () -> x.mend(0), 2);
         is("open again", () -> x.road(0, 5), 1);
         is("mend more", () -> x.mend(0), 1);
         is("and more", () -> x.mend(0), 0);
-        due.throwsIt("no wound", () -> x.mend(0), ISE);
+        due.throwsIt("no wound", () -> x.mend(0), Edges.ISE);
         is("still none", () -> x.road(0, 3), 0);
-        due.throwsIt("road -1", () -> x.mend(-1), IOOBE);
-        due.throwsIt("road 5", () -> x.mend(5), IOOBE);
+        due.throwsIt("road -1", () -> x.mend(-1), Edges.IOOBE);
+        due.throwsIt("road 5", () -> x.mend(5), Edges.IOOBE);
     }
 
     // ---- 17
     private void telling() {
-        TavernRumours x = land(LAND + "rumour l at a on 9;");
+        TavernRumours x = Edges.land(LAND + "rumour l at a on 9;");
         x.pass(2);
         is("one that has not begun", () -> x.tell(1, 0), 1);
         is("in this hour", () -> x.since(1, 0), 2);
-        due.throwsIt("twice", () -> x.tell(1, 0), ISE);
+        due.throwsIt("twice", () -> x.tell(1, 0), Edges.ISE);
         is("nobody walks yet", () -> x.count(8), 0);
         is("another one", () -> x.tell(3, 0), 2);
         is("they walk", () -> x.pass(1) + x.count(8), 4);
@@ -619,23 +596,23 @@ public final class PromisesTest {
         is("e", () -> x.since(4, 0), 3);
         is("c", () -> x.pass(10), 1);
         is("it begins at a for nothing", () -> x.since(0, 0), 4);
-        due.throwsIt("tavern -1", () -> x.tell(-1, 0), IOOBE);
-        due.throwsIt("tavern 5", () -> x.tell(5, 0), IOOBE);
-        due.throwsIt("rumour -1", () -> x.tell(0, -1), IOOBE);
-        due.throwsIt("rumour 1", () -> x.tell(0, 1), IOOBE);
+        due.throwsIt("tavern -1", () -> x.tell(-1, 0), Edges.IOOBE);
+        due.throwsIt("tavern 5", () -> x.tell(5, 0), Edges.IOOBE);
+        due.throwsIt("rumour -1", () -> x.tell(0, -1), Edges.IOOBE);
+        due.throwsIt("rumour 1", () -> x.tell(0, 1), Edges.IOOBE);
     }
 
     // ---- 18
     private void milesByHand() {
-        TavernRumours x = land(LAND + "rumour l at a on 0;");
+        TavernRumours x = Edges.land(LAND + "rumour l at a on 0;");
         is("before", () -> x.setMiles(0, 30), 2);
         is("before again", () -> x.setMiles(0, 1), 30);
         is("now", () -> x.road(0, 2), 1);
         is("far", () -> x.far(0, 2), 4);
-        due.throwsIt("0 miles", () -> x.setMiles(0, 0), IAE);
-        due.throwsIt("31 miles", () -> x.setMiles(0, 31), IAE);
-        due.throwsIt("road -1", () -> x.setMiles(-1, 1), IOOBE);
-        due.throwsIt("road 5 and 0 miles", () -> x.setMiles(5, 0), IOOBE);
+        due.throwsIt("0 miles", () -> x.setMiles(0, 0), Edges.IAE);
+        due.throwsIt("31 miles", () -> x.setMiles(0, 31), Edges.IAE);
+        due.throwsIt("road -1", () -> x.setMiles(-1, 1), Edges.IOOBE);
+        due.throwsIt("road 5 and 0 miles", () -> x.setMiles(5, 0), Edges.IOOBE);
         x.setMiles(2, 30);
         x.setMiles(1, 30);
         x.pass(5);
@@ -647,10 +624,10 @@ public final class PromisesTest {
 
     // ---- 19
     private void hours() {
-        TavernRumours x = land(PAIR + "3;rumour s at a on 2;");
-        due.throwsIt("0 hours", () -> x.pass(0), IAE);
-        due.throwsIt("101 hours", () -> x.pass(101), IAE);
-        due.throwsIt("-1 hours", () -> x.pass(-1), IAE);
+        TavernRumours x = Edges.land(PAIR + "3;rumour s at a on 2;");
+        due.throwsIt("0 hours", () -> x.pass(0), Edges.IAE);
+        due.throwsIt("101 hours", () -> x.pass(101), Edges.IAE);
+        due.throwsIt("-1 hours", () -> x.pass(-1), Edges.IAE);
         is("the hour", () -> x.count(0), 0);
         is("nothing yet", () -> x.pass(2), 0);
         is("it begins", () -> x.pass(1), 1);
@@ -667,7 +644,7 @@ public final class PromisesTest {
     }
 
     private void orders() {
-        TavernRumours x = land(PAIR + "3;hurt r by 2 when hour=0;hurt r by 7 when wounds r=2;mend r when hour>=1;"
+        TavernRumours x = Edges.land(PAIR + "3;hurt r by 2 when hour=0;hurt r by 7 when wounds r=2;mend r when hour>=1;"
                 + "hurt r by 0-5 when hour=2;hurt r by 1 when 1=2;");
         x.pass(1);
         is("an order acts on those behind it", () -> x.road(0, 3), 3);
@@ -678,7 +655,7 @@ public final class PromisesTest {
         x.pass(1);
         is("hurt and mended, not by -5", () -> x.road(0, 3), 2);
         is("five", () -> x.count(10), 5);
-        TavernRumours y = land(PAIR + "3;mend r when 1=1;hurt r by hour when hour<2;hurt r by 3 when hour=2;"
+        TavernRumours y = Edges.land(PAIR + "3;mend r when 1=1;hurt r by hour when hour<2;hurt r by 3 when hour=2;"
                 + "hurt r by 1 when hour=2;");
         y.pass(1);
         is("no wound to mend, hurt by 0: none", () -> y.count(10), 0);
@@ -690,7 +667,7 @@ public final class PromisesTest {
     }
 
     private void hushing() {
-        TavernRumours x = land(PAIR + "1;rumour s at a on 0;hush a when hour<3;hush a when hour=1;hush b when hour=4;");
+        TavernRumours x = Edges.land(PAIR + "1;rumour s at a on 0;hush a when hour<3;hush a when hour=1;hush b when hour=4;");
         is("hears all the same", () -> x.pass(1), 1);
         is("sends nobody", () -> x.count(8), 0);
         is("once hushed is enough", () -> x.pass(1) + x.count(10), 2);
@@ -703,7 +680,7 @@ public final class PromisesTest {
         x.pass(1);
         is("then it does", () -> x.count(8), 1);
         is("orders carried out", () -> x.count(10), 4);
-        TavernRumours y = land(PAIR + "1;rumour s at a on 0;");
+        TavernRumours y = Edges.land(PAIR + "1;rumour s at a on 0;");
         y.hurt(0, 3);
         y.pass(1);
         y.mend(0);
@@ -715,7 +692,7 @@ public final class PromisesTest {
         String ahead = LAND + "rumour k at a on 0;hurt q by 1 when hour=0;hurt t by 3 when hour=0;hurt u by 3 when hour=0;";
         for (int wounds = 0; wounds < 2; wounds++) {
             String list = ahead + "hurt p by " + (wounds == 0 ? sum : "3-(" + sum + ")") + " when hour=1;";
-            TavernRumours x = land(list);
+            TavernRumours x = Edges.land(list);
             x.pass(2);
             int due3 = wounds == 0 ? want : 3 - want;
             is(list, () -> x.road(0, 3), Math.max(0, Math.min(3, due3)));
@@ -725,7 +702,7 @@ public final class PromisesTest {
 
     private void isTest(String test, boolean holds) {
         String ahead = LAND + "rumour k at a on 0;hurt q by 1 when hour=0;hurt t by 3 when hour=0;hurt u by 3 when hour=0;";
-        TavernRumours x = land(ahead + "hurt p by 1 when hour=1 and [" + test + "];");
+        TavernRumours x = Edges.land(ahead + "hurt p by 1 when hour=1 and [" + test + "];");
         x.pass(2);
         is(test, () -> x.road(0, 3), holds ? 1 : 0);
     }
@@ -792,7 +769,7 @@ public final class PromisesTest {
     }
 
     private void travellers() {
-        TavernRumours x = land(PAIR + "3;rumour s at a on 0;");
+        TavernRumours x = Edges.land(PAIR + "3;rumour s at a on 0;");
         x.pass(2);
         x.hurt(0, 1);
         is("longer now", () -> x.pass(3), 0);
@@ -807,22 +784,22 @@ public final class PromisesTest {
         x.pass(1);
         is("lost in the next hour", () -> x.count(13), 1);
         is("none walks", () -> x.count(8), 0);
-        TavernRumours y = land(PAIR + "2;rumour s at a on 0;hurt r by 3 when hour=2;mend r when hour=2;");
+        TavernRumours y = Edges.land(PAIR + "2;rumour s at a on 0;hurt r by 3 when hour=2;mend r when hour=2;");
         y.pass(2);
         is("broken and mended in one hour: none lost", () -> y.pass(1) + y.count(8) + y.count(13), 1);
-        TavernRumours z = land(PAIR + "1;rumour s at a on 0;mend r when hour=1;");
+        TavernRumours z = Edges.land(PAIR + "1;rumour s at a on 0;mend r when hour=1;");
         z.hurt(0, 3);
         z.pass(1);
         is("sets out on open roads alone", () -> z.count(8), 0);
         // two ways as long: b hears it once in the hour, both have arrived
-        TavernRumours w = land(LAND + "rumour s at d on 0;");
+        TavernRumours w = Edges.land(LAND + "rumour s at d on 0;");
         is("two arrive", () -> w.pass(2), 2);
         is("two go back", () -> w.count(8), 2);
     }
 
     // ---- 20
     private void waiting() {
-        TavernRumours x = land(PAIR + "20;rumour s at a on 99;rumour t at a on 98;rumour u at b on 0;");
+        TavernRumours x = Edges.land(PAIR + "20;rumour s at a on 99;rumour t at a on 98;rumour u at b on 0;");
         is("behind 120 hours", () -> x.until(0), 120);
         is("nothing changed", () -> x.count(0) + x.count(9), 0);
         is("119", () -> x.until(1), 119);
@@ -836,15 +813,15 @@ public final class PromisesTest {
         is("now", () -> x.until(1), 0);
         x.hurt(0, 3);
         is("parted", () -> x.until(2), -1);
-        due.throwsIt("until -1", () -> x.until(-1), IOOBE);
-        due.throwsIt("until 3", () -> x.until(3), IOOBE);
-        TavernRumours y = land(PAIR + "1;rumour s at a on 0;hurt r by 3 when hour=1;mend r when hour=5;");
+        due.throwsIt("until -1", () -> x.until(-1), Edges.IOOBE);
+        due.throwsIt("until 3", () -> x.until(3), Edges.IOOBE);
+        TavernRumours y = Edges.land(PAIR + "1;rumour s at a on 0;hurt r by 3 when hour=1;mend r when hour=5;");
         is("lost on the way", () -> y.until(0), -1);
     }
 
     // ---- 21
     private void foreseeing() {
-        TavernRumours x = land(LAND + "rumour l at a on 0;rumour m at d on 1;hush e when 1=2;hurt p by 1 when hour=3;"
+        TavernRumours x = Edges.land(LAND + "rumour l at a on 0;rumour m at d on 1;hush e when 1=2;hurt p by 1 when hour=3;"
                 + "hurt s by 3 when hour=4;hurt u by 3 when hour=3;");
         int[] behind = {3, 3, 2, 2, 4, 3, 4 + 3 + 1, 1, 2};
         long before = x.digest();
@@ -855,11 +832,11 @@ public final class PromisesTest {
         is("nothing changed", x::digest, before);
         is("hour 1", () -> x.foresee(1, 9), 1);
         is("hour 100", () -> x.foresee(100, 9), 5);
-        due.throwsIt("0 hours", () -> x.foresee(0, 4), IAE);
-        due.throwsIt("101 hours", () -> x.foresee(101, 14), IAE);
-        due.throwsIt("what 4", () -> x.foresee(1, 4), IOOBE);
-        due.throwsIt("what 14", () -> x.foresee(1, 14), IOOBE);
-        due.throwsIt("what -1", () -> x.foresee(1, -1), IOOBE);
+        due.throwsIt("0 hours", () -> x.foresee(0, 4), Edges.IAE);
+        due.throwsIt("101 hours", () -> x.foresee(101, 14), Edges.IAE);
+        due.throwsIt("what 4", () -> x.foresee(1, 4), Edges.IOOBE);
+        due.throwsIt("what 14", () -> x.foresee(1, 14), Edges.IOOBE);
+        due.throwsIt("what -1", () -> x.foresee(1, -1), Edges.IOOBE);
         x.pass(5);
         for (int what = 5; what < 14; what++) {
             int one = what;
@@ -869,7 +846,7 @@ public final class PromisesTest {
 
     // ---- 22
     private void advising() {
-        TavernRumours x = land(LAND + "rumour l at a on 90;");
+        TavernRumours x = Edges.land(LAND + "rumour l at a on 90;");
         long before = x.digest();
         is("one hour: itself alone", () -> x.advise(0, 1), 0);
         is("two hours: d tells e", () -> x.advise(0, 2), 3);
@@ -884,15 +861,15 @@ public final class PromisesTest {
         is("in one hour", () -> x.advise(0, 1), 0);
         x.pass(60);
         is("all know", () -> x.advise(0, 1), -1);
-        due.throwsIt("rumour -1", () -> x.advise(-1, 0), IOOBE);
-        due.throwsIt("rumour 1", () -> x.advise(1, 61), IOOBE);
-        due.throwsIt("0 hours", () -> x.advise(0, 0), IAE);
-        due.throwsIt("61 hours", () -> x.advise(0, 61), IAE);
+        due.throwsIt("rumour -1", () -> x.advise(-1, 0), Edges.IOOBE);
+        due.throwsIt("rumour 1", () -> x.advise(1, 61), Edges.IOOBE);
+        due.throwsIt("0 hours", () -> x.advise(0, 0), Edges.IAE);
+        due.throwsIt("61 hours", () -> x.advise(0, 61), Edges.IAE);
     }
 
     // ---- 23
     private void bestMending() {
-        TavernRumours x = land(LAND);
+        TavernRumours x = Edges.land(LAND);
         is("no wound", x::best, -1);
         x.hurt(4, 1);
         is("nothing gets better", x::best, 4);
@@ -917,7 +894,7 @@ public final class PromisesTest {
     private void meanLength() {
         TavernRumours none = new TavernRumours();
         due.isDouble("no roads", none::mean, 0.0);
-        TavernRumours x = land(LAND);
+        TavernRumours x = Edges.land(LAND);
         due.isDouble("13 by 5", x::mean, 13.0 / 5.0);
         x.hurt(0, 1);
         due.isDouble("15 by 5", x::mean, 3.0);
@@ -931,7 +908,7 @@ public final class PromisesTest {
 
     // ---- 25
     private void digests() {
-        TavernRumours x = land(LAND + "rumour l at a on 0;rumour m at e on 1;hush a when hour=2;");
+        TavernRumours x = Edges.land(LAND + "rumour l at a on 0;rumour m at e on 1;hush a when hour=2;");
         is("digest", x::digest, digestOf(x));
         x.pass(4);
         x.hurt(3, 3);
