@@ -1080,24 +1080,35 @@ public final class TavernRumours {
         }
 
         boolean addWounds(int road, int by) {
-            int before = wounds[road];
-            int after = Math.min(BROKEN, before + by);
-            if (after != before) {
-                shape(road, miles[road], after);
+            boolean canChange = has(road) && wounds[road] < BROKEN && by > 0;
+            if (canChange) {
+                shape(road, miles[road], Math.min(BROKEN, wounds[road] + by));
             }
-            return after != before;
+            return canChange;
         }
 
         boolean takeWound(int road) {
-            boolean has = wounds[road] > 0;
-            if (has) {
+            boolean hasOne = has(road) && wounds[road] > 0;
+            if (hasOne) {
                 shape(road, miles[road], wounds[road] - 1);
             }
-            return has;
+            return hasOne;
+        }
+
+        private boolean has(int road) {
+            return road >= 0 && road < count;
+        }
+
+        int lengthOf(int road) {
+            return has(road) ? length[road] : 0;
+        }
+
+        int woundsOf(int road) {
+            return has(road) ? wounds[road] : 0;
         }
 
         boolean isOpen(int road) {
-            return wounds[road] < BROKEN;
+            return has(road) && wounds[road] < BROKEN;
         }
 
         int openRoads() {
@@ -1133,6 +1144,9 @@ public final class TavernRumours {
         }
 
         int between(int a, int b) {
+            if (a < 0 || a >= taverns || b < 0 || b >= taverns) {
+                return NONE;
+            }
             if (!rowIsFresh[a]) {
                 fillRow(rows[a], a, NONE);
                 rowIsFresh[a] = true;
@@ -1386,9 +1400,9 @@ public final class TavernRumours {
                 case HOUR:
                     return land.hour;
                 case LENGTH:
-                    return land.roads.length[first];
+                    return land.roads.lengthOf(first);
                 case WOUNDS:
-                    return land.roads.wounds[first];
+                    return land.roads.woundsOf(first);
                 case HEARD:
                     return land.knowersOf(first);
                 case FAR:
@@ -1462,13 +1476,17 @@ public final class TavernRumours {
             return heardOn[tavern * MAX_RUMOURS + rumour];
         }
 
+        private boolean has(int tavern, int rumour) {
+            return tavern >= 0 && tavern < plan.taverns && rumour >= 0 && rumour < plan.rumours;
+        }
+
         boolean knows(int tavern, int rumour) {
-            return heardOn[tavern * MAX_RUMOURS + rumour] != NONE;
+            return has(tavern, rumour) && heardOn[tavern * MAX_RUMOURS + rumour] != NONE;
         }
 
         /** Returns whether it did not know it before. */
         boolean hears(int tavern, int rumour) {
-            boolean isNew = !knows(tavern, rumour);
+            boolean isNew = has(tavern, rumour) && !knows(tavern, rumour);
             if (isNew) {
                 heardOn[tavern * MAX_RUMOURS + rumour] = hour;
             }
@@ -1477,8 +1495,9 @@ public final class TavernRumours {
 
         int knowersOf(int rumour) {
             int knowers = 0;
-            for (int tavern = 0; tavern < plan.taverns; tavern++) {
-                knowers += knows(tavern, rumour) ? 1 : 0;
+            boolean isOne = rumour >= 0 && rumour < plan.rumours;
+            for (int tavern = 0; isOne && tavern < plan.taverns; tavern++) {
+                knowers += heardOn[tavern * MAX_RUMOURS + rumour] == NONE ? 0 : 1;
             }
             return knowers;
         }
@@ -1575,9 +1594,11 @@ public final class TavernRumours {
                 case MEND:
                     return roads.takeWound(target);
                 default:
-                    boolean wasHushed = hushed[target];
-                    hushed[target] = true;
-                    return !wasHushed;
+                    boolean canChange = target >= 0 && target < plan.taverns && !hushed[target];
+                    if (canChange) {
+                        hushed[target] = true;
+                    }
+                    return canChange;
             }
         }
 

@@ -157,6 +157,56 @@ public final class FutureEdgesTest {
                 E.is("foresee " + what, x.foresee(1, what), due[what - 5]);
             }
         });
+        E.test("Promise 21, foresee: lost in all, with those who were lost ahead", () -> {
+            TavernRumours x = pair("9;rumour s at a on 0;");
+            x.pass(1);
+            x.hurt(0, 3);
+            x.pass(1);
+            E.is("lost", x.foresee(1, 13), 1);
+        });
+        for (int hour = 1; hour <= 12; hour++) {
+            int now = hour;
+            E.test("Promise 21, foresee: with travellers on their way, in the hour " + hour, () -> {
+                TavernRumours x = wandering(now);
+                int[] foreseen = new int[14];
+                for (int what = 5; what <= 13; what++) {
+                    foreseen[what] = x.foresee(4, what);
+                }
+                x.pass(4);
+                for (int what = 5; what <= 13; what++) {
+                    E.is("foresee " + what, foreseen[what], x.count(what));
+                }
+            });
+            E.test("Promise 20, until: with travellers on their way, in the hour " + hour, () -> {
+                TavernRumours x = wandering(now);
+                for (int s = 0; s < 3; s++) {
+                    int until = x.until(s);
+                    TavernRumours y = wandering(now);
+                    for (int i = 0; i < until; i++) {
+                        E.is("not all know it yet", y.rumour(s, 2) < 4 ? 1 : 0, 1);
+                        y.pass(1);
+                    }
+                    E.is("all know it", y.rumour(s, 2), 4);
+                }
+            });
+        }
+        E.test("Promise 21, foresee: what was done by hand since the last one counts in orders' tests", () -> {
+            TavernRumours x = Edges.land(Edges.LAND + "hurt t by 1 when far a b=9;hurt t by 2 when parted a c;");
+            E.is("no wound", x.foresee(1, 12) + x.foresee(1, 10), 0);
+            x.hurt(0, 3);
+            E.is("far", x.foresee(1, 10), 1);
+            x.hurt(2, 3);
+            E.is("parted", x.foresee(1, 10), 1);
+            x.mend(0);
+            E.is("neither", x.foresee(1, 10), 0);
+        });
+        E.test("Promise 21, foresee: of the list taught last", () -> {
+            TavernRumours x = pair("1;rumour s at a on 0;hurt r by 3 when far a b=1;");
+            E.is("parts", x.foresee(1, 7), 2);
+            Due.teach(x, "tavern a;tavern b;tavern c;");
+            E.is("parts then", x.foresee(1, 7), 3);
+            E.is("travellers", x.foresee(1, 8), 0);
+        });
         E.test("Promise 21, foresee: of an empty land", () -> {
             for (int what = 5; what <= 13; what++) {
                 E.is("foresee " + what, new TavernRumours().foresee(100, what), 0);
@@ -164,9 +214,20 @@ public final class FutureEdgesTest {
         });
     }
 
+    /** Four taverns and three rumours; at all times some are on roads of different lengths. */
+    private static TavernRumours wandering(int hours) {
+        TavernRumours x = Edges.land("tavern a;tavern b;tavern c;tavern d;road p from a to b miles 3;"
+                + "road q from b to c miles 5;road r from c to d miles 2;road o from d to a miles 7;"
+                + "rumour s at a on 0;rumour t at c on 1;rumour u at d on 4;hurt r by 2 when hour=6;"
+                + "hurt o by 3 when hour=9;mend o when hour=11;");
+        x.pass(hours);
+        return x;
+    }
+
     private static void adviseRange() {
         E.range("Promise 22, advise: rumour", FutureEdgesTest::eventful, Edges.IOOBE, 0, 1, (x, s) -> x.advise(s, 3));
-        E.range("Promise 22, advise: rumour of six", FutureEdgesTest::full, Edges.IOOBE, 0, 5, (x, s) -> x.advise(s, 3));
+        E.range("Promise 22, advise: rumour of six", FutureEdgesTest::full, Edges.IOOBE, 0, 5, (x, s) -> x.advise(s,
+                3));
         E.range("Promise 22, advise: hours", FutureEdgesTest::eventful, Edges.IAE, 1, 60, (x, h) -> x.advise(1, h));
         TavernRumours y = eventful();
         E.refused("Promise 22, advise: neither rumour nor hours 0 are right", y, Edges.IOOBE, () -> y.advise(2, 0));
@@ -190,7 +251,8 @@ public final class FutureEdgesTest {
             E.is("advise", Edges.land(Edges.LAND + "rumour l at a on 90;").advise(0, 4), 1);
         });
         E.test(head + "the greatest number", () -> {
-            E.is("advise", Edges.land("tavern a;tavern b;tavern c;road p from a to c miles 1;road q from b to c miles 1;"
+            E.is("advise",
+                    Edges.land("tavern a;tavern b;tavern c;road p from a to c miles 1;road q from b to c miles 1;"
                     + "rumour s at a on 90;").advise(0, 2), 2);
         });
         E.test(head + "none that knows it, but one that does not", () -> {
@@ -271,6 +333,8 @@ public final class FutureEdgesTest {
         E.test(head + "the only wounded one, also if nothing gets better by it", () -> {
             E.is("s, which is not in the net", hurt(eventful(), 2, 1).best(), 2);
         });
+        E.test(head + "the first one", () -> E.is("best", hurt(eventful(), 0, 1).best(), 0));
+        E.test(head + "the first one, rather than another", () -> E.is("best", hurt(eventful(), 0, 1, 1, 1).best(), 0));
         E.test(head + "the last of fourteen", () -> E.is("best", hurt(full(), 13, 1).best(), 13));
         E.test(head + "a broken one that would be open", () -> {
             E.is("best", hurt(pair("1;tavern c;road q from b to c miles 1;"), 0, 1, 1, 3).best(), 1);
@@ -364,7 +428,8 @@ public final class FutureEdgesTest {
             E.isDouble("mean", pair("1;road p from a to b miles 1;road q from a to b miles 2;").mean(), 4.0 / 3.0);
         });
         E.test(head + "without those that are broken", () -> {
-            E.isDouble("mean", hurt(pair("1;road p from a to b miles 2;road q from a to b miles 9;"), 2, 3).mean(), 1.5);
+            E.isDouble("mean", hurt(pair("1;road p from a to b miles 2;road q from a to b miles 9;"), 2, 3).mean(),
+                    1.5);
         });
         E.test(head + "with those that have two wounds", () -> {
             E.isDouble("mean", hurt(pair("1;road p from a to b miles 2;"), 0, 2).mean(), 3.5);

@@ -83,8 +83,10 @@ public final class HandsEdgesTest {
 
     private static void mend() {
         E.range("Promise 16, mend: road", HandsEdgesTest::wounded, Edges.IOOBE, 0, 4, TavernRumours::mend);
-        E.range("Promise 16, mend: road without wounds, not there,", HandsEdgesTest::oneOfTwoWounded, Edges.IOOBE, 0, 1,
-                TavernRumours::mend);
+        E.range("Promise 16, mend: road of two", HandsEdgesTest::twoWounded, Edges.IOOBE, 0, 1, TavernRumours::mend);
+        TavernRumours whole = land();
+        E.refused("Promise 16, mend: neither is there such a road nor has any a wound", whole, Edges.IOOBE,
+                () -> whole.mend(5));
         for (int wounds = 3; wounds >= 1; wounds--) {
             int before = wounds;
             E.test("Promise 16, mend: with " + wounds + " wounds ahead", () -> {
@@ -109,7 +111,7 @@ public final class HandsEdgesTest {
         });
     }
 
-    private static TavernRumours oneOfTwoWounded() {
+    private static TavernRumours twoWounded() {
         TavernRumours x = pair("1;road q from a to b miles 1;");
         x.hurt(0, 1);
         x.hurt(1, 1);
@@ -196,7 +198,8 @@ public final class HandsEdgesTest {
         E.range("Promise 18, setMiles: road", HandsEdgesTest::land, Edges.IOOBE, 0, 4, (x, r) -> x.setMiles(r, 7));
         E.range("Promise 18, setMiles: road of fourteen", HandsEdgesTest::full, Edges.IOOBE, 0, 13,
                 (x, r) -> x.setMiles(r, 30));
-        E.range("Promise 18, setMiles: miles", HandsEdgesTest::land, Edges.IAE, 1, 30, (x, miles) -> x.setMiles(4, miles));
+        E.range("Promise 18, setMiles: miles", HandsEdgesTest::land, Edges.IAE, 1, 30, (x, miles) -> x.setMiles(4,
+                miles));
         TavernRumours y = land();
         E.refused("Promise 18, setMiles: neither road nor miles are right", y, Edges.IOOBE, () -> y.setMiles(5, 31));
         E.test("Promise 18, setMiles: those before, first those of the list, then those set", () -> {
@@ -243,7 +246,7 @@ public final class HandsEdgesTest {
             E.is("heard", x.pass(1), 0);
             E.is("on it", x.road(0, 8), 1);
         });
-        E.test("Promise 18, setMiles: fewer than a traveller has gone: he arrives in the next hour, not at once", () -> {
+        E.test("Promise 18, setMiles: fewer than a traveller has gone: he arrives in the next hour", () -> {
             TavernRumours x = pair("9;rumour s at a on 0;");
             x.pass(6);
             x.setMiles(0, 1);

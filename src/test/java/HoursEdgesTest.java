@@ -34,7 +34,8 @@ public final class HoursEdgesTest {
 
     private static void passing() {
         E.range("Promise 19, pass: hours", () -> pair("3;rumour s at a on 0;"), Edges.IAE, 1, 100, TavernRumours::pass);
-        E.range("Promise 19, pass: hours, on a new object,", TavernRumours::new, Edges.IAE, 1, 100, TavernRumours::pass);
+        E.range("Promise 19, pass: hours, on a new object,", TavernRumours::new, Edges.IAE, 1, 100,
+                TavernRumours::pass);
         for (int hours : new int[] {0, -100}) {
             TavernRumours x = pair("3;rumour s at a on 0;");
             E.refused("Promise 19, pass: refused with hours " + hours, x, Edges.IAE, () -> x.pass(hours));
@@ -197,6 +198,16 @@ public final class HoursEdgesTest {
             E.is("lost", x.count(13), 1);
             E.is("on q", x.road(1, 8), 1);
         });
+        E.test(head + "the others go on with their rumours and miles", () -> {
+            // s on r, then t on q, then u on q; those on r are lost
+            TavernRumours x = passed(4, Edges.PAIR + "9;tavern c;road q from b to c miles 6;rumour s at a on 0;"
+                    + "rumour t at c on 1;rumour u at c on 3;hurt r by 3 when hour=4;hush b when 1=1;");
+            x.pass(20);
+            E.is("lost", x.count(13), 1);
+            E.is("s", x.since(1, 0), -1);
+            E.is("t", x.since(1, 1), 7);
+            E.is("u", x.since(1, 2), 9);
+        });
         E.test(head + "their tavern does not send anew", () -> {
             TavernRumours x = passed(2, Edges.PAIR + "9;rumour s at a on 0;");
             x.hurt(0, 3);
@@ -224,7 +235,8 @@ public final class HoursEdgesTest {
             E.is("lost", x.count(13), 0);
         });
         E.test(head + "broken and mended by orders of one hour", () -> {
-            TavernRumours x = passed(3, Edges.PAIR + "9;rumour s at a on 0;hurt r by 3 when hour=2;mend r when hour=2;");
+            TavernRumours x = passed(3, Edges.PAIR
+                    + "9;rumour s at a on 0;hurt r by 3 when hour=2;mend r when hour=2;");
             E.is("lost", x.count(13), 0);
             E.is("on the way", x.count(8), 1);
         });
@@ -352,6 +364,15 @@ public final class HoursEdgesTest {
         E.test(head + "two in one hour: the tavern sends once for each rumour", () -> {
             TavernRumours x = passed(2, Edges.PAIR + "1;road q from a to b miles 1;rumour s at a on 0;");
             E.is("back on r and q", x.count(8), 2);
+        });
+        E.test(head + "the others go on with their rumours and miles", () -> {
+            TavernRumours x = passed(3, Edges.PAIR + "2;tavern c;road q from b to c miles 6;rumour s at a on 0;"
+                    + "rumour t at c on 1;rumour u at c on 2;hush b when 1=1;");
+            E.is("s has arrived", x.since(1, 0), 2);
+            E.is("with t, with u", x.rumour(1, 3) * 10 + x.rumour(2, 3), 11);
+            x.pass(20);
+            E.is("t", x.since(1, 1), 7);
+            E.is("u", x.since(1, 2), 8);
         });
         E.test(head + "another rumour comes from it in the same hour", () -> {
             TavernRumours x = passed(3, Edges.PAIR + "2;rumour s at a on 0;rumour t at b on 0;");

@@ -160,15 +160,18 @@ public final class NamesEdgesTest {
             for (int second : new int[] {2, 3, 5}) {
                 if (first != second) {
                     E.test("Terms 1, errors: error " + first + " told ahead of error " + second + " to its right",
-                            () -> E.taught(ALL + numbered[first] + numbered[second], first, ALL.length() + places[first]));
+                            () -> E.taught(ALL + numbered[first] + numbered[second], first,
+                                    ALL.length() + places[first]));
                 }
             }
         }
         String taverns = Edges.numbered(10, "tavern t", ";");
         E.wrong("Terms 1, errors: error 4 told ahead of error 2 to its right", 4, taverns + "tavern ?x;tavern x;");
         E.wrong("Terms 1, errors: error 2 told ahead of error 4 to its right", 2, taverns + "tavern ?t1;tavern x;");
-        E.wrong("Terms 1, errors: error 4 told ahead of error 3 to its right", 4, taverns + "tavern ?x;hush y when 1=1;");
-        E.wrong("Terms 1, errors: error 3 told ahead of error 4 to its right", 3, taverns + "hush ?y when 1=1;tavern x;");
+        E.wrong("Terms 1, errors: error 4 told ahead of error 3 to its right", 4, taverns
+                + "tavern ?x;hush y when 1=1;");
+        E.wrong("Terms 1, errors: error 3 told ahead of error 4 to its right", 3, taverns
+                + "hush ?y when 1=1;tavern x;");
         E.wrong("Terms 1, errors: in one line the road's name, its from, its to, its miles", 2,
                 ALL + "road ?r from z to z miles 0;");
         E.wrong("Terms 1, errors: in one line from, to, miles", 3, ALL + "road x from ?z to y miles 0;");
@@ -210,7 +213,7 @@ public final class NamesEdgesTest {
             E.is("hour", x.rumour(1, 1), 8);
             E.is("tavern", x.rumour(0, 0), 1);
         });
-        E.test("Terms 1, numbers: orders are given in the order in which they are told, also between other lines", () -> {
+        E.test("Terms 1, numbers: orders are given as they are told, also between other lines", () -> {
             TavernRumours x = Edges.land(ALL + "hurt r by 1 when 1=1;tavern v;hurt r by 2 when wounds r=1;"
                     + "rumour x at v on 3;mend r when wounds r=3;");
             x.pass(1);

@@ -255,7 +255,8 @@ public final class PromisesTest {
 
     /** What trim() cut off is still in memory, but no longer on the tape. */
     private void cutTokens() {
-        String[] ahead = {"tavern a;hush a when 1<", "tavern a;hush a when 1=1", "tavern abc", "tavern a;rumour s at a on 9"};
+        String[] ahead = {"tavern a;hush a when 1<", "tavern a;hush a when 1=1", "tavern abc",
+                "tavern a;rumour s at a on 9"};
         String[] cut = {"=2;", "00;", "de;", "9;"};
         for (int i = 0; i < 4; i++) {
             TavernRumours x = new TavernRumours();
@@ -361,7 +362,8 @@ public final class PromisesTest {
 
     // ---- 6
     private void counts() {
-        TavernRumours x = Edges.land(LAND + "rumour l at a on 0;rumour m at d on 1;hush e when 1=2;hurt p by 1 when hour=3;");
+        TavernRumours x = Edges.land(LAND
+                + "rumour l at a on 0;rumour m at d on 1;hush e when 1=2;hurt p by 1 when hour=3;");
         int[] start = {0, 5, 5, 2, 2, 5, 0, 2, 0, 0, 0, 2 + 3 + 1, 0, 0, 0};
         for (int what = 0; what < 15; what++) {
             int one = what;
@@ -667,7 +669,8 @@ public final class PromisesTest {
     }
 
     private void hushing() {
-        TavernRumours x = Edges.land(PAIR + "1;rumour s at a on 0;hush a when hour<3;hush a when hour=1;hush b when hour=4;");
+        TavernRumours x = Edges.land(PAIR
+                + "1;rumour s at a on 0;hush a when hour<3;hush a when hour=1;hush b when hour=4;");
         is("hears all the same", () -> x.pass(1), 1);
         is("sends nobody", () -> x.count(8), 0);
         is("once hushed is enough", () -> x.pass(1) + x.count(10), 2);
@@ -689,7 +692,8 @@ public final class PromisesTest {
 
     /** The wounds of a road tell what a sum is, as far as 0 to 3 go. */
     private void isSum(String sum, int want) {
-        String ahead = LAND + "rumour k at a on 0;hurt q by 1 when hour=0;hurt t by 3 when hour=0;hurt u by 3 when hour=0;";
+        String ahead = LAND
+                + "rumour k at a on 0;hurt q by 1 when hour=0;hurt t by 3 when hour=0;hurt u by 3 when hour=0;";
         for (int wounds = 0; wounds < 2; wounds++) {
             String list = ahead + "hurt p by " + (wounds == 0 ? sum : "3-(" + sum + ")") + " when hour=1;";
             TavernRumours x = Edges.land(list);
@@ -701,7 +705,8 @@ public final class PromisesTest {
     }
 
     private void isTest(String test, boolean holds) {
-        String ahead = LAND + "rumour k at a on 0;hurt q by 1 when hour=0;hurt t by 3 when hour=0;hurt u by 3 when hour=0;";
+        String ahead = LAND
+                + "rumour k at a on 0;hurt q by 1 when hour=0;hurt t by 3 when hour=0;hurt u by 3 when hour=0;";
         TavernRumours x = Edges.land(ahead + "hurt p by 1 when hour=1 and [" + test + "];");
         x.pass(2);
         is(test, () -> x.road(0, 3), holds ? 1 : 0);
@@ -821,7 +826,8 @@ public final class PromisesTest {
 
     // ---- 21
     private void foreseeing() {
-        TavernRumours x = Edges.land(LAND + "rumour l at a on 0;rumour m at d on 1;hush e when 1=2;hurt p by 1 when hour=3;"
+        TavernRumours x = Edges.land(LAND
+                + "rumour l at a on 0;rumour m at d on 1;hush e when 1=2;hurt p by 1 when hour=3;"
                 + "hurt s by 3 when hour=4;hurt u by 3 when hour=3;");
         int[] behind = {3, 3, 2, 2, 4, 3, 4 + 3 + 1, 1, 2};
         long before = x.digest();

@@ -200,6 +200,23 @@ public final class RoadsEdgesTest {
         E.test("Terms 2, the net: a road with two wounds belongs to it", () -> {
             E.is("u", hurt(land(), 3, 3, 4, 2).road(4, 7), 1);
         });
+        E.test("Terms 2, the net: another one, when a road is hurt, and again, when it is mended", () -> {
+            TavernRumours x = Edges.land(Edges.PAIR + "1;road q from b to a miles 2;");
+            E.is("r", x.road(0, 7), 1);
+            x.hurt(0, 1);
+            E.is("r hurt", x.road(0, 7), 0);
+            E.is("q", x.road(1, 7), 1);
+            x.mend(0);
+            E.is("r mended", x.road(0, 7), 1);
+            E.is("q then", x.road(1, 7), 0);
+        });
+        E.test("Terms 2, the net: no road that is broken after it was told", () -> {
+            TavernRumours x = Edges.land(Edges.PAIR + "1;");
+            E.is("r", x.road(0, 7), 1);
+            x.hurt(0, 3);
+            E.is("r broken", x.road(0, 7), 0);
+            E.is("length", x.count(11), 0);
+        });
         E.test("Terms 2, the net: taverns joined over more than one road of it", () -> {
             TavernRumours x = Edges.land(Edges.numbered(4, "tavern t", ";") + "road p from t0 to t1 miles 1;"
                     + "road q from t2 to t3 miles 1;road r from t1 to t2 miles 2;road s from t3 to t0 miles 3;");
@@ -210,7 +227,8 @@ public final class RoadsEdgesTest {
 
     private static void countRange() {
         E.range("Promise 6, count: what", RoadsEdgesTest::walked, Edges.IOOBE, 0, 14, TavernRumours::count);
-        E.range("Promise 6, count: what, on a new object,", TavernRumours::new, Edges.IOOBE, 0, 14, TavernRumours::count);
+        E.range("Promise 6, count: what, on a new object,", TavernRumours::new, Edges.IOOBE, 0, 14,
+                TavernRumours::count);
     }
 
     private static void count(String edge, TavernRumours x, int what, int want) {
@@ -319,6 +337,10 @@ public final class RoadsEdgesTest {
         E.test("Promise 7, tavern: the farthest one of its own part, not of others", () -> {
             E.is("from d", land().tavern(3, 3), 1);
             E.is("from a", land().tavern(0, 3), 5);
+        });
+        E.test("Promise 7, tavern: the farthest one may be the first one", () -> {
+            E.is("from c", land().tavern(2, 3), 5);
+            E.is("from e", land().tavern(4, 3), 1);
         });
         E.test("Promise 7, tavern: the farthest one of ten in a row", () -> {
             E.is("from the first one", chain(30, 2).tavern(0, 3), 306);
@@ -446,7 +468,8 @@ public final class RoadsEdgesTest {
         });
         E.test("Promise 12, step: b itself, if it is the next one", () -> E.is("step", land().step(0, 1), 1));
         E.test("Promise 12, step: the next one, not b", () -> E.is("step", land().step(0, 2), 1));
-        String square = Edges.numbered(4, "tavern t", ";") + "road p from t0 to t2 miles 1;road q from t2 to t3 miles 2;"
+        String square = Edges.numbered(4, "tavern t", ";")
+                + "road p from t0 to t2 miles 1;road q from t2 to t3 miles 2;"
                 + "road r from t0 to t1 miles 2;road s from t1 to t3 miles 1;road u from t0 to t3 miles ";
         E.test("Promise 12, step: of several the smallest number, not the first road", () -> {
             E.is("step", Edges.land(square + "30;").step(0, 3), 1);
@@ -455,12 +478,14 @@ public final class RoadsEdgesTest {
             E.is("step", Edges.land(square + "3;").step(0, 3), 1);
         });
         E.test("Promise 12, step: only on a shortest way", () -> E.is("step", Edges.land(square + "2;").step(0, 3), 3));
-        E.test("Promise 12, step: the smallest number may be b", () -> E.is("step", Edges.land(square + "3;").step(3, 0), 0));
+        E.test("Promise 12, step: the smallest number may be b", () -> E.is("step", Edges.land(square + "3;").step(3,
+                0), 0));
     }
 
     private static void detour() {
         E.range("Promise 13, detour: road", RoadsEdgesTest::land, Edges.IOOBE, 0, 4, TavernRumours::detour);
-        E.range("Promise 13, detour: road of fourteen", RoadsEdgesTest::full, Edges.IOOBE, 0, 13, TavernRumours::detour);
+        E.range("Promise 13, detour: road of fourteen", RoadsEdgesTest::full, Edges.IOOBE, 0, 13,
+                TavernRumours::detour);
         E.test("Promise 13, detour: of an open road", () -> E.is("detour", land().detour(0), 9));
         E.test("Promise 13, detour: of a road that is not open", () -> E.is("detour", hurt(land(), 0, 3).detour(0), 9));
         E.test("Promise 13, detour: -1 of a span", () -> E.is("detour", chain(1, 0).detour(4), -1));
@@ -479,13 +504,18 @@ public final class RoadsEdgesTest {
 
     private static void replace() {
         E.range("Promise 14, replace: road", RoadsEdgesTest::land, Edges.IOOBE, 0, 4, TavernRumours::replace);
-        E.range("Promise 14, replace: road of fourteen", RoadsEdgesTest::full, Edges.IOOBE, 0, 13, TavernRumours::replace);
+        E.range("Promise 14, replace: road of fourteen", RoadsEdgesTest::full, Edges.IOOBE, 0, 13,
+                TavernRumours::replace);
         E.test("Promise 14, replace: -1 of a span", () -> E.is("replace", chain(1, 0).replace(4), -1));
         E.test("Promise 14, replace: -1 of an open road that does not belong to the net", () -> {
             E.is("replace", land().replace(2), -1);
         });
         E.test("Promise 14, replace: -1 of a broken road", () -> E.is("replace", hurt(land(), 0, 3).replace(0), -1));
         E.test("Promise 14, replace: the only one that could", () -> E.is("replace", land().replace(1), 2));
+        E.test("Promise 14, replace: the first road", () -> {
+            TavernRumours x = Edges.land(Edges.PAIR + "9;road q from a to b miles 1;");
+            E.is("replace", x.replace(1), 0);
+        });
         E.test("Promise 14, replace: the other one of two as long", () -> E.is("replace", land().replace(3), 4));
         E.test("Promise 14, replace: of several as long the smallest number", () -> {
             E.is("replace", full().replace(0), 1);

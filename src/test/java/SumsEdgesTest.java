@@ -167,6 +167,11 @@ public final class SumsEdgesTest {
         holdsNot(not + ", but [ ] go ahead", "not[1=1 or 1=2]");
         holds(not + ", twice", "not not 1=1");
         holdsNot(not + ", twice", "not not 1=2");
+        holdsNot(not + ": a road that is open", "not open p");
+        holdsNot(not + ": taverns that are parted", "not parted a d");
+        holds(not + ": taverns that are not parted", "not parted a c");
+        fact("Terms 3, not: a tavern that knows", "not knows a k", false);
+        fact("Terms 3, not: a tavern that does not know", "not knows c k", true);
         holds("Terms 3, many and", "1=1 and 1=1 and 1=1 and 1=1");
         holdsNot("Terms 3, many and, the last one", "1=1 and 1=1 and 1=1 and 1=2");
         holdsNot("Terms 3, many and, the first one", "1=2 and 1=1 and 1=1 and 1=1");

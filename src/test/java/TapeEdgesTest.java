@@ -15,6 +15,7 @@ public final class TapeEdgesTest {
         trimming();
         teaching();
         teachingAnew();
+        listsAhead();
         teachingWrongly();
         errorPlaces();
         blanks();
@@ -137,13 +138,16 @@ public final class TapeEdgesTest {
             E.is("teach", x.teach(), 0);
             E.is("taverns", x.count(1), 2);
         });
-        E.test("Terms 1, the tape: behind 2000 bytes a list that goes on ends at 2000", () -> {
-            TavernRumours x = tapeOf(1980);
-            // "tavern a;tavern bcde"
-            x.feed(0x74617665, 0x726e2061, 0x3b746176, 0x65726e20, 0x62636465);
-            E.is("teach", x.teach(), 1);
-            E.is("errorAt", x.errorAt(), 2000);
-        });
+        for (String end : new String[] {"tavern a", "hush a when 12", "hush a when 1<", "hush a when 1>",
+                "hush a when -"}) {
+            E.test("Terms 1, the tape: with 2000 bytes that end with " + end + " the list ends at 2000", () -> {
+                TavernRumours x = new TavernRumours();
+                Due.write(x, " ".repeat(2000 - end.length()) + end);
+                E.is("bytes", x.count(14), 2000);
+                E.is("teach", x.teach(), 1);
+                E.is("errorAt", x.errorAt(), 2000);
+            });
+        }
     }
 
     private static void trimming() {
@@ -196,6 +200,19 @@ public final class TapeEdgesTest {
                 E.is("teach " + one[0], Due.teach(y, one[2]), 0);
             }
         });
+        String[] ahead = {"tavern abc", "tavern a;hush a when 12", "tavern a;hush a when 1<",
+                "tavern a;hush a when 1>"};
+        String[] cut = {"de;", "34=1;", "=2;", "=2;"};
+        for (int i = 0; i < 4; i++) {
+            int one = i;
+            E.test("Promise 3, trim: the bytes that it cut off are not read, behind " + ahead[i], () -> {
+                TavernRumours y = new TavernRumours();
+                Due.write(y, ahead[one] + cut[one]);
+                y.trim(ahead[one].length());
+                E.is("teach", y.teach(), 1);
+                E.is("errorAt", y.errorAt(), ahead[one].length());
+            });
+        }
     }
 
     private static void teaching() {
@@ -275,11 +292,58 @@ public final class TapeEdgesTest {
         E.test("Promise 4, teach: names told ahead are unknown", () -> {
             E.is("teach", Due.teach(x, "rumour o at a on 1;"), 3);
         });
-        E.test("Promise 4, teach: the limits count anew", () -> {
-            String full = Edges.numbered(10, "tavern t", ";");
-            TavernRumours y = Edges.land(full);
-            E.is("teach", Due.teach(y, full), 0);
-            E.is("taverns", y.count(1), 10);
+    }
+
+    /** Nothing of the lists ahead is left, be it one or two or one with an error. */
+    private static void listsAhead() {
+        String[] lines = {"tavern t", "tavern a;tavern b;road r", "tavern a;rumour s", "tavern a;hush a when 1=1"};
+        String[] behind = {";", " from a to b miles 1;", " at a on 0;", ";"};
+        int[] most = {10, 14, 6, 20};
+        for (int kind = 0; kind < 4; kind++) {
+            int what = kind + 1;
+            String[] parts = lines[kind].split(";");
+            String ahead = lines[kind].substring(0, lines[kind].length() - parts[parts.length - 1].length());
+            String last = parts[parts.length - 1];
+            String full = ahead + (kind == 3 ? (last + ";").repeat(20) : Edges.numbered(most[kind], last,
+                    behind[kind]));
+            String one = ahead + (kind == 3 ? last + ";" : last + "0" + behind[kind]);
+            E.test("Promise 4, teach: the limits count anew, of " + last.split(" ")[0], () -> {
+                TavernRumours x = new TavernRumours();
+                for (int i = 0; i < 4; i++) {
+                    E.is("teach", Due.teach(x, full), 0);
+                    E.is("how many", x.count(what), most[what - 1]);
+                }
+            });
+            E.test("Promise 4, teach: nothing is left of two full lists, of " + last.split(" ")[0], () -> {
+                TavernRumours x = Edges.land(full);
+                Due.teach(x, full);
+                for (int i = 0; i < 3; i++) {
+                    E.is("teach", Due.teach(x, one), 0);
+                    E.is("how many", x.count(what), 1);
+                }
+            });
+            E.test("Promise 4, teach: nothing is left of a list with an error, of " + last.split(" ")[0], () -> {
+                TavernRumours x = new TavernRumours();
+                E.is("teach", Due.teach(x, full + "tavern"), 1);
+                E.is("teach", Due.teach(x, full + "hush z when 1=1;"), what == 4 ? 4 : 3);
+                E.is("teach", Due.teach(x, one), 0);
+                E.is("how many", x.count(what), 1);
+            });
+        }
+        E.test("Promise 4, teach: the ways of the list ahead are gone, if the new one has no roads", () -> {
+            TavernRumours x = Edges.land(Edges.PAIR + "1;");
+            E.is("far, parts and net", x.far(0, 1) + x.count(7) + x.count(11), 3);
+            Due.teach(x, "tavern a;tavern b;");
+            E.is("far", x.far(0, 1), -1);
+            E.is("parts", x.count(7), 2);
+            E.is("net", x.count(11), 0);
+        });
+        E.test("Promise 4, teach: an order of two lists ahead is given no more", () -> {
+            TavernRumours x = Edges.land(Edges.PAIR + "1;hurt r by 3 when 1=1;");
+            Due.teach(x, Edges.PAIR + "1;mend r when 1=1;");
+            Due.teach(x, Edges.PAIR + "1;hurt r by 1 when 1=1;");
+            x.pass(1);
+            E.is("wounds", x.road(0, 3), 1);
         });
     }
 
@@ -348,7 +412,8 @@ public final class TapeEdgesTest {
         E.right("Terms 1, blanks: at the beginning", "  tavern a;");
         E.right("Terms 1, blanks: at the end", "tavern a;  ");
         E.right("Terms 1, blanks: between tokens that could stand side by side", "tavern a ; tavern b ;");
-        E.right("Terms 1, blanks: none between tokens that cannot be read as one", "tavern a;hush a when-1<(2)and 1<=2;");
+        E.right("Terms 1, blanks: none between tokens that cannot be read as one",
+                "tavern a;hush a when-1<(2)and 1<=2;");
         E.right("Terms 1, blanks: none between a number and a word", "tavern a;hush a when 1=1and 1=1;");
         E.right("Terms 1, blanks: nothing but blanks", "    ");
         E.right("Terms 1, line ends: at the beginning", "\n\ntavern a;");
@@ -387,7 +452,7 @@ public final class TapeEdgesTest {
             E.wrong("Terms 1, a word: " + digit + " does not begin it", 1, "tavern ?" + digit + "a;");
         }
         E.test("Terms 1, a word: two are the same only with the same bytes and as long", () -> {
-            E.taught("tavern a;tavern a0;tavern a00;tavern b;tavern a1;tavern aa;tavern ab;", 0, -1);
+            E.taught("tavern a;tavern a0;tavern a00;tavern b;tavern a1;tavern aa;tavern a9;tavern cm;", 0, -1);
         });
         E.test("Terms 1, a word: two of ten bytes differ also in the last one", () -> {
             E.taught("tavern zzzzzzzzzy;tavern zzzzzzzzzz;tavern zzzzzzzzz9;tavern yzzzzzzzzz;", 0, -1);
@@ -472,7 +537,8 @@ public final class TapeEdgesTest {
     }
 
     private static void depthOfEach() {
-        String[][] nested = {{"(", "1", ")", "=1"}, {"[", "1=1", "]", ""}, {"-", "1", "", "=1"}, {"not ", "1=1", "", ""},
+        String[][] nested = {{"(", "1", ")", "=1"}, {"[", "1=1", "]", ""}, {"-", "1", "", "=1"}, {"not ", "1=1", "",
+                ""},
             {"min(1,", "1", ")", "=1"}, {"max(1,", "1", ")", "=1"}};
         for (String[] kind : nested) {
             String name = "Terms 1, depth: " + kind[0].trim();
@@ -542,7 +608,8 @@ public final class TapeEdgesTest {
             String list = HUSH + "-0" + "+0".repeat(195) + "=0";
             E.taught(list, 1, list.length());
         });
-        E.wrong("Terms 1, error 1: a wrong token ahead of the 401st", 1, sum + "+0".repeat(190) + "=0?=0" + "+0".repeat(9));
+        E.wrong("Terms 1, error 1: a wrong token ahead of the 401st", 1, sum + "+0".repeat(190) + "=0?=0"
+                + "+0".repeat(9));
         E.test("Terms 1, error 1: the 400th token is looked at like others", () -> {
             String list = full.substring(0, full.length() - 1);
             E.taught(list + ",", 1, list.length());
