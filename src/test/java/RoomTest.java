@@ -92,9 +92,9 @@ public final class RoomTest {
     private static void needs(String head, Runnable run) {
         E.test("Terms, room: " + head, () -> {
             run.run();
-            long before = MEMORY.getThreadAllocatedBytes(Thread.currentThread().getId());
+            long before = MEMORY.getCurrentThreadAllocatedBytes();
             run.run();
-            long bytes = MEMORY.getThreadAllocatedBytes(Thread.currentThread().getId()) - before;
+            long bytes = MEMORY.getCurrentThreadAllocatedBytes() - before;
             E.is("little room, not " + bytes + " bytes", bytes < MOST_BYTES ? 1 : 0, 1);
         });
     }
