@@ -1,8 +1,12 @@
+import java.util.ArrayList;
+import java.util.List;
+
 /** Edges of promises 1 to 5, and of the language as far as error 1 goes. */
 public final class TapeEdgesTest {
     private static final Edges E = new Edges();
     private static final int BLANKS = 0x20202020;
     private static final int[] EVERY_SIDE = {Integer.MIN_VALUE, -1, Integer.MAX_VALUE};
+    private static final String SIGNS = "abcdefghijklmnopqrstuvwxyz0123456789";
     private static final String HUSH = "tavern a;hush a when ";
 
     private TapeEdgesTest() {
@@ -454,12 +458,41 @@ public final class TapeEdgesTest {
         E.test("Terms 1, a word: two are the same only with the same bytes and as long", () -> {
             E.taught("tavern a;tavern a0;tavern a00;tavern b;tavern a1;tavern aa;tavern a9;tavern cm;", 0, -1);
         });
+        E.test("Terms 1, a word: no two of all that have two bytes are the same", () -> {
+            E.is("lists with an error", wrongListsOfTwoBytes(), 0);
+        });
         E.test("Terms 1, a word: two of ten bytes differ also in the last one", () -> {
             E.taught("tavern zzzzzzzzzy;tavern zzzzzzzzzz;tavern zzzzzzzzz9;tavern yzzzzzzzzz;", 0, -1);
         });
         E.test("Terms 1, a word: two of ten bytes are the same", () -> {
             E.taught("tavern zzzzzzzzzy;tavern zzzzzzzzzy;", 2, 25);
         });
+    }
+
+    /** Each five names with each other five. */
+    private static int wrongListsOfTwoBytes() {
+        List<String> fives = new ArrayList<>();
+        StringBuilder five = new StringBuilder();
+        int names = 0;
+        for (int i = 0; i < 26 * 36; i++) {
+            String name = "" + SIGNS.charAt(i / 36) + SIGNS.charAt(i % 36);
+            if (!List.of("to", "at", "on", "by", "or").contains(name)) {
+                five.append("tavern ").append(name).append(";");
+                names++;
+            }
+            if (names == 5 || i == 26 * 36 - 1) {
+                fives.add(five.toString());
+                five.setLength(0);
+                names = 0;
+            }
+        }
+        int wrong = 0;
+        for (int a = 0; a < fives.size(); a++) {
+            for (int b = 0; b < a; b++) {
+                wrong += Due.teach(new TavernRumours(), fives.get(a) + fives.get(b)) == 0 ? 0 : 1;
+            }
+        }
+        return wrong;
     }
 
     private static void numbers() {
